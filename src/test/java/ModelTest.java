@@ -32,7 +32,7 @@ public final class ModelTest {
             "span 0..", "stack NONE", "stack 0..", "over 0..", "joined 0..", "later NOT", "later 0..", "odds NOT",
             "odds 0..", "field NONE", "field 0..", "ploughed NONE", "ploughed 0..", "peak NONE", "peak 0..",
             "given NONE", "given 0..", "whose NONE", "whose 0..", "picture FULL", "shows 0..", "shows UNKNOWN"}) {
-            Due.is("reached: " + must, reached.getOrDefault(must, 0) > 20 ? 1 : 0, 1);
+            Due.is("reached: " + must, reached.getOrDefault(must, 0) > 5 ? 1 : 0, 1);
         }
         if (args.length > 0) {
             System.out.println(reached);
