@@ -334,7 +334,7 @@ public final class BentFurrows {
         private static final int MOST_DIGITS = 4;
 
         private static final int BUNDLE = 0, MARK = 1, YEAR = 2, OVER = 3, TEAM = 4, SLACK = 5, GAP = 6;
-        private static final int KINDS = 7;
+        private static final int KINDS = GAP + 1;
 
         /** What may stand in a slot: a number (also: not below, unlike the one ahead), a word. */
         private static final int NUMBER = 0, NOT_BELOW = 1, UNLIKE = 2, COMPASS = 3, HAND = 4;
@@ -388,6 +388,7 @@ public final class BentFurrows {
                     return begin;
                 }
             }
+            // the ; behind the last line that may stand
             return begin;
         }
 
