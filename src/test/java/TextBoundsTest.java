@@ -6,6 +6,7 @@ public final class TextBoundsTest {
     public static void main(String[] args) {
         newObjectIsEmpty();
         newObjectsShareNothing();
+        fiveHundredAndTwelveCalls();
         slackAndGapAtFirst();
         writeTakesOneToEight();
         writeTakesTheLowBytesFirst();
@@ -82,6 +83,23 @@ public final class TextBoundsTest {
         newObjectIsEmpty();
         Due.is("the other keeps its own", x.count(0) + x.count(1) + x.count(2) + x.count(3), 4);
         Due.is("the other keeps its text", x.count(4), 3);
+    }
+
+    /** "An object is used for at most 512 calls after it has been made": the last is as good as the first. */
+    private static void fiveHundredAndTwelveCalls() {
+        BentFurrows x = new BentFurrows();
+        int made = 0;
+        for (int round = 1; round <= 102; round++) {
+            Due.is("write", x.write(Due.packed("gap 57", 0, 6), 6), 6);
+            Due.is("parish()", x.parish(), 1);
+            Due.is("holder", x.holder(round % 30, round % 10), round <= 30 ? Due.NONE : (round - 30) % 10);
+            Due.is("picture", x.picture(0, 0, 0), round <= 8 ? round : Due.FULL);
+            Due.is("terrier", x.terrier(round % 5, 1, 31), 1);
+            made += 5;
+        }
+        Due.is("write", x.write(Due.packed("gap 58", 0, 6), 6), 6);
+        Due.is("the calls", made + 2, 512);
+        Due.is("the 512th", x.parish(), 1);
     }
 
     /** "SLACK is 0 .. 99 (2 at first), GAP 0 .. 99 (20)": by what they do. */
