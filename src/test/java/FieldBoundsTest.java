@@ -384,6 +384,9 @@ public final class FieldBoundsTest {
         BentFurrows x = joinedAndAMark();
         Due.tell(x, "year 0 700 2000;year 7 600 650");
         Due.is("the least", x.field(0, 2), 600);
+        Due.tell(x, "year 0 599 2000");
+        Due.is("the least is that of the other", x.field(7, 2), 599);
+        Due.tell(x, "year 0 700 2000");
         Due.tell(x, "over 7 8;year 8 640 2000");
         Due.is("by what lies under it", x.field(0, 2), 641);
         Due.tell(x, "year 0 2000 2000;year 7 2000 2000;year 8 1999 2000");
@@ -544,6 +547,9 @@ public final class FieldBoundsTest {
     private static void peakAtBothEnds() {
         BentFurrows x = Due.told("bundle 0 0 0 east 1 1 9 0 left 0;year 0 2000 2000");
         peak(x, 2000, 9);
+        Due.tell(x, "year 0 1 1");
+        peak(x, 1, 9);
+        Due.tell(x, "year 0 2000 2000");
         Due.tell(x, "bundle 1 0 0 north 1 1 9 0 left 0;mark 8 0 0 1 1;over 8 1;year 8 1 1");
         peak(x, 0, 9);
         Due.tell(x, "year 8 2000 2000");

@@ -28,6 +28,7 @@ public final class TextBoundsTest {
         oneToEightLines();
         parishRefused();
         parishOfTwoHundredBytes();
+        eachNumberOfEachLine();
         linesInTheirOrder();
         bundleNumbers();
         bundleParts();
@@ -495,6 +496,28 @@ public final class TextBoundsTest {
         Due.is("it is empty then", x.count(4), 0);
         Due.is("200 bytes once more", Due.write(x, " ".repeat(200)), 200);
         Due.is("nothing of the text ahead", x.fault(), 200);
+    }
+
+    /** As many of the longest lines as fit, each with numbers of its own, and the others behind a bundle. */
+    private static void eachNumberOfEachLine() {
+        StringBuilder text = new StringBuilder();
+        for (int bundle = 0; bundle < 6; bundle++) {
+            int n = bundle + 1;
+            text.append(bundle == 0 ? "" : ";").append("bundle " + bundle + " " + n + " 7 east " + n + " 8 9 " + n + " left " + n);
+        }
+        BentFurrows x = Due.told(text.toString());
+        for (int bundle = 0; bundle < 6; bundle++) {
+            int n = bundle + 1;
+            int[] parts = {n, 7, 0, n, 8, 9, n, 0, n, 72 * n};
+            for (int what = 0; what < 10; what++) {
+                Due.is("bundle(" + bundle + ", " + what + ")", x.bundle(bundle, what), parts[what]);
+            }
+        }
+        for (String behind : new String[] {"mark 8 0 0 1 1", "year 0 0 0", "over 0 1", "team 1 0 0 0 0", "slack 0", "gap 0"}) {
+            BentFurrows y = Due.told("bundle 3 0 0 east 1 1 1 0 right 60;" + behind);
+            Due.is("HIGH ahead of " + behind, y.bundle(3, 8), 60);
+            Due.is("the side ahead of " + behind, y.bundle(3, 7), 1);
+        }
     }
 
     private static void linesInTheirOrder() {
