@@ -14,6 +14,7 @@ public final class TextBoundsTest {
         writeThatDoesNotFit();
         eraseOfEmptyAndFull();
         faultOfEmpty();
+        nothingOfTextsAhead();
         everyByteAlone();
         everyByteBehindAWord();
         everyByteBehindANumber();
@@ -35,6 +36,7 @@ public final class TextBoundsTest {
         leastAndGreatestBundle();
         coversNumbers();
         coversLeastAndMost();
+        oneToldKeepsAllOthers();
         countNumbers();
         countEmptyAndFull();
         Due.end();
@@ -210,6 +212,31 @@ public final class TextBoundsTest {
         Due.is("no fault", x.fault(), Due.NONE);
         x.parish();
         Due.is("empty again", x.fault(), 0);
+    }
+
+    /** A text that ends too soon does not go on with what stood there ahead of it. */
+    private static void nothingOfTextsAhead() {
+        for (String sign : new String[] {"0", "9", "a", ";", " ", "!"}) {
+            for (String text : new String[] {"", " ", "gap", "gap ", "gap   ", "gap 5;", "gap 5; ", "year 0 0 ", "year 0 0", "bundle 0 0 0 ", "x"}) {
+                BentFurrows x = new BentFurrows();
+                Due.write(x, sign.repeat(200));
+                Due.is("erase()", x.erase(), 200);
+                Due.write(x, text);
+                Due.is("fault() of '" + text + "' behind " + sign, x.fault(), text.equals("x") ? 0 : text.length());
+                Due.is("parish()", x.parish(), Due.NOT);
+            }
+            BentFurrows x = new BentFurrows();
+            Due.write(x, sign.repeat(200));
+            x.erase();
+            Due.tell(x, "gap 5");
+            Due.is("gap", x.count(8), 5);
+        }
+        BentFurrows x = Due.told("gap   7 ;gap   8");
+        for (int n = 0; n < 7; n++) {
+            Due.write(x, "gap   7".substring(0, n));
+            Due.is("fault() behind parish()", x.fault(), n == 0 || n > 2 ? n : 0);
+            x.erase();
+        }
     }
 
     private static void everyByteAlone() {
@@ -596,6 +623,48 @@ public final class TextBoundsTest {
         for (int[] thing : due) {
             for (int what = 0; what < 4; what++) {
                 Due.is("covers(" + thing[0] + ", " + what + ")", x.covers(thing[0], what), thing[what + 1]);
+            }
+        }
+    }
+
+    /** All fourteen told in rising and in falling order, and each of them told anew: no other changes. */
+    private static void oneToldKeepsAllOthers() {
+        for (int order = 0; order < 2; order++) {
+            BentFurrows x = new BentFurrows();
+            for (int i = 0; i < 14; i++) {
+                Due.tell(x, numbered(order == 0 ? i : 13 - i));
+            }
+            areNumbered(x);
+        }
+        for (int anew = 0; anew < 14; anew++) {
+            BentFurrows x = new BentFurrows();
+            for (int thing = 0; thing < 14; thing++) {
+                Due.tell(x, numbered(thing));
+            }
+            Due.tell(x, numbered(anew));
+            areNumbered(x);
+        }
+    }
+
+    private static String numbered(int thing) {
+        int n = thing + 1;
+        return thing < 8 ? "bundle " + thing + " " + 30 * n + " " + 31 * n + (n % 2 == 0 ? " east " : " north ") + 2 * n + " " + (n + 2)
+                + " " + 40 * n + " " + 3 * n + (n % 4 < 2 ? " left " : " right ") + 5 * n
+                : "mark " + thing + " " + 30 * n + " " + 31 * n + " " + 32 * n + " " + 33 * n;
+    }
+
+    private static void areNumbered(BentFurrows x) {
+        for (int thing = 0; thing < 14; thing++) {
+            int n = thing + 1;
+            int[] bundle = {30 * n, 31 * n, n % 2, 2 * n, n + 2, 40 * n, 3 * n, n % 4 / 2, 5 * n, 2 * n * (n + 2) * 40 * n};
+            int across = 2 * n * (n + 2);
+            int[] box = {30 * n, 31 * n, n % 2 == 0 ? 40 * n : across, n % 2 == 0 ? across : 40 * n};
+            int[] mark = {30 * n, 31 * n, 32 * n, 33 * n};
+            for (int what = 0; what < 10 && thing < 8; what++) {
+                Due.is("bundle(" + thing + ", " + what + ")", x.bundle(thing, what), bundle[what]);
+            }
+            for (int what = 0; what < 4; what++) {
+                Due.is("covers(" + thing + ", " + what + ")", x.covers(thing, what), thing < 8 ? box[what] : mark[what]);
             }
         }
     }

@@ -7,6 +7,7 @@ public final class YearBoundsTest {
         teamsNumbers();
         fitsAtBothEnds();
         noneAndAllTeams();
+        oneTeamKeepsAllOthers();
         spanNumbers();
         allYearsAtFirst();
         leastAndGreatestYears();
@@ -67,6 +68,33 @@ public final class YearBoundsTest {
         Due.is("all twelve", x.teams(0), 8190);
         Due.tell(x, "team 7 1 40 0 2000");
         Due.is("told anew, it fits no more", x.teams(0), 8190 - 128);
+    }
+
+    /** Each team with swings and years of its own, told in rising and in falling order, and each anew. */
+    private static void oneTeamKeepsAllOthers() {
+        for (int anew = 0; anew <= 13; anew++) {
+            BentFurrows x = new BentFurrows();
+            for (int i = 1; i <= 12; i++) {
+                Due.tell(x, ownTeam(anew == 13 ? 13 - i : i));
+            }
+            if (anew >= 1 && anew <= 12) {
+                Due.tell(x, ownTeam(anew));
+            }
+            for (int team = 1; team <= 12; team++) {
+                for (int swing = 3 * team - 1; swing <= 3 * team + 1; swing++) {
+                    Due.tell(x, "bundle 4 0 0 east 1 1 1 " + swing + " left 0");
+                    boolean fits = swing < 3 * team + 1;
+                    Due.is("teams(4)", x.teams(4), fits ? 1 << team : 0);
+                    Due.is("span(4, 0)", x.span(4, 0), fits ? 20 * team : 0);
+                    Due.is("span(4, 1)", x.span(4, 1), fits ? 30 * team + 9 : 2000);
+                }
+            }
+        }
+    }
+
+    /** SWINGS 3 K - 1 and 3 K, YEARS 20 K to 30 K + 9. */
+    private static String ownTeam(int team) {
+        return "team " + team + " " + (3 * team - 1) + " " + 3 * team + " " + 20 * team + " " + (30 * team + 9);
     }
 
     private static void spanNumbers() {
