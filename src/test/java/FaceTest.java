@@ -101,5 +101,40 @@ public final class FaceTest {
             Due.is("the source has " + barred, Pattern.compile(barred).matcher(code).find() ? 1 : 0, 0);
         }
         Due.is("signs beyond 127", source.chars().filter(sign -> sign > 127).count(), 0);
+        nothingThrows(code);
+        methodsAreShort(code);
+    }
+
+    /** What the machine could throw at: each place must be one that has been looked at. */
+    private static void nothingThrows(String code) {
+        Due.is("indexes that are used, in at and put alone", times("\\w\\[\\w+\\]", code.replaceAll("new int\\[", "")), 2);
+        Due.is("at tests its index", times("place >= 0 && place < row\\.length \\? row\\[place\\]", code), 1);
+        Due.is("put tests its index", times("if \\(place >= 0 && place < row\\.length\\) \\{\\s+row\\[place\\] =", code), 1);
+        Due.is("divisions, both in oddsPart", times(" / ", code), 2);
+        Due.is("oddsPart tests its divisor", times("if \\(common < 1\\) \\{\\s+return NONE;", code), 1);
+        Due.is("remainders, in one place", times(" % ", code), 1);
+        Due.is("remainder tests its divisor", times("divisor < 1 \\? 0 : number % divisor", code), 1);
+        Due.is("casts but of a byte", times("\\((int|long|short|byte|char|[A-Z]\\w+)\\) ?[\\w(]", code), 1);
+        Due.is("rows whose length is no constant", times("new int\\[[^A-Z(]", code), 0);
+        Due.is("rows made elsewhere than with their object", times("(?<!private final int\\[\\] \\w{1,20} = )new int\\[", code), 0);
+    }
+
+    private static long times(String pattern, String code) {
+        return Pattern.compile(pattern).matcher(code).results().count();
+    }
+
+    private static void methodsAreShort(String code) {
+        int begun = 0;
+        int found = 0;
+        String[] rows = code.split("\n", -1);
+        for (int i = 0; i < rows.length; i++) {
+            if (rows[i].matches(" {4}( {4})?[a-zA-Z].*\\) \\{") && !rows[i].matches(" *(if|for|while|switch) .*")) {
+                begun = i;
+                found++;
+            } else if (rows[i].matches(" {4}( {4})?\\}")) {
+                Due.is("rows of" + rows[begun], i - begun <= 60 ? 1 : 0, 1);
+            }
+        }
+        Due.is("methods that were measured", found > 100 ? 1 : 0, 1);
     }
 }
